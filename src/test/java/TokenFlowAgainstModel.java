@@ -75,7 +75,7 @@ public final class TokenFlowAgainstModel {
         return below(15) == 0 ? number() : below(limit + 1);
     }
 
-    private void choosePlan() {
+    private void chooseWish() {
         int[][] rows = {{1, 1, 2, 3, 4, 6, 9}, {6, 9, 12, 18, 27}, {7, 8, 49, 56, 63}, {1, 9, 81}, {4, 10, 12, 84, 90}};
         int[] row = rows[below(rows.length)];
         for (int n = 0; n < wish.length; n++) {
@@ -125,7 +125,7 @@ public final class TokenFlowAgainstModel {
 
     /** Mostly a tree of actors, so that the network is connected, and some edges more. */
     private void build() {
-        choosePlan();
+        chooseWish();
         int size = below(9);
         boolean anyNumbers = below(4) == 0;
         for (int n = 0; n < size; n++) {

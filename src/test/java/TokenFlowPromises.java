@@ -157,6 +157,21 @@ public final class TokenFlowPromises {
         due("firing(1) behind reset()", x.firing(1), 1);
         due("run(3) behind reset()", run(x, 3), "6");
         due("value(1)", x.value(1), 6);
+
+        TokenFlow y = new TokenFlow();
+        y.actor(COUNT, 1);
+        y.edge(0, 0, 1, 1, 9);
+        plan(y);
+        run(y, 13);
+        due("token(0, 0)", y.token(0, 0), 5);
+        y.reset();
+        due("tokens(0) of a loop behind reset()", y.tokens(0), 9);
+        for (int k = 0; k < 10; k++) {
+            due("token(0, " + k + ") of a loop behind reset()", y.token(0, k), 0);
+        }
+        run(y, 2);
+        due("token(0, 7) of a loop", y.token(0, 7), 1);
+        due("token(0, 8) of a loop", y.token(0, 8), 2);
     }
 
     private static void promise6Clear() {
@@ -452,7 +467,8 @@ public final class TokenFlowPromises {
                 due("token(0, " + k + ")", x.token(0, k), row[k]);
             }
         }
-        for (int no : new int[] {-1, 5, 9, 1000, Integer.MIN_VALUE, Integer.MAX_VALUE}) {
+        run(x, 20);
+        for (int no : new int[] {-1, 5, 6, 7, 8, 9, 1000, Integer.MIN_VALUE, Integer.MAX_VALUE}) {
             due("token(0, " + no + ")", x.token(0, no), 0);
         }
         due("token(1, 0)", x.token(1, 0), 0);
@@ -502,6 +518,18 @@ public final class TokenFlowPromises {
         plan(low);
         run(low, 1);
         due("GREATEST of negative tokens", low.value(1), -48);
+        run(low, 1);
+        due("GREATEST of negative tokens once more", low.value(1), -47);
+
+        TokenFlow falling = new TokenFlow();
+        falling.actor(COUNT, 100);
+        falling.actor(COUNT, 1);
+        falling.actor(GREATEST, 1000);
+        falling.edge(0, 2, 1, 1, 0);
+        falling.edge(1, 2, 2, 2, 0);
+        plan(falling);
+        run(falling, 1);
+        due("GREATEST of tokens that fall", falling.value(2), 100);
 
         // Edges are made in an order other than that of the actors they come from.
         TokenFlow mixed = new TokenFlow();
