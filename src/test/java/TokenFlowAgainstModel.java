@@ -10,8 +10,11 @@ import java.util.NoSuchElementException;
  * model that is written from the document in another way, with the library.
  */
 public final class TokenFlowAgainstModel {
-    private static final int RUNS = 600;
+    private static final int RUNS = 2000;
+    // What an object answers behind its 512th call is free.
     private static final int CALLS = 512;
+    // clear(), a whole new network, and some looks.
+    private static final int CALLS_OF_A_STEP = 30;
     private static final String[] KINDS_OF_PLAN = {"IllegalStateException", "ArithmeticException",
         "UnsupportedOperationException", "NoSuchElementException", "number"};
 
@@ -50,12 +53,12 @@ public final class TokenFlowAgainstModel {
 
     private void go() {
         build();
-        while (calls < CALLS && wrong == 0) {
+        while (calls + CALLS_OF_A_STEP <= CALLS && wrong == 0) {
             change();
             for (int k = below(4); k > 0; k--) {
                 ask();
             }
-            if (below(12) == 0) {
+            if (below(12) == 0 && calls + callsOfAskAll() <= CALLS) {
                 askAll();
             }
         }
@@ -206,25 +209,31 @@ public final class TokenFlowAgainstModel {
         }
     }
 
-    /** Looks at everything; these looks are not counted among the calls, for they change nothing. */
+    /** Looks at everything, and one step beyond it on both sides. */
     private void askAll() {
-        int before = calls;
-        for (int n = -1; n < 10; n++) {
+        for (int n = -1; n <= model.actors.size(); n++) {
             compare("repetitions(" + n + ")", made.repetitions(n), model.repetitions(n));
             compare("value(" + n + ")", made.value(n), model.value(n));
             compare("state(" + n + ")", made.state(n), model.state(n));
         }
-        for (int e = -1; e < 14; e++) {
+        for (int e = -1; e <= model.edges.size(); e++) {
             compare("bound(" + e + ")", made.bound(e), model.bound(e));
             compare("tokens(" + e + ")", made.tokens(e), model.tokens(e));
-            for (int k = -1; k < 12; k++) {
+            for (int k = -1; k <= Math.max(0, model.tokens(e)); k++) {
                 compare("token(" + e + ", " + k + ")", made.token(e, k), model.token(e, k));
             }
         }
-        for (int i = -1; i < 202; i++) {
+        for (int i = -1; i <= model.plan.size(); i++) {
             compare("firing(" + i + ")", made.firing(i), model.firing(i));
         }
-        calls = before;
+    }
+
+    private int callsOfAskAll() {
+        int count = 3 * (model.actors.size() + 2) + 2 * (model.edges.size() + 2) + model.plan.size() + 2;
+        for (int e = -1; e <= model.edges.size(); e++) {
+            count += Math.max(0, model.tokens(e)) + 2;
+        }
+        return count;
     }
 
     private String planMade() {

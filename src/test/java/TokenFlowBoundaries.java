@@ -552,6 +552,11 @@ public final class TokenFlowBoundaries {
 
     private static void connectedEitherWay() {
         sentence("no matter which way they point");
+        TokenFlow nines = sums(8);
+        for (int n = 6; n >= 0; n--) {
+            nines.edge(n, n + 1, 9, 9, 0);
+        }
+        due("a chain of nines made from its end", plan(nines), "8");
         for (int ways = 0; ways < 128; ways++) {
             TokenFlow up = sums(8);
             TokenFlow down = sums(8);
@@ -808,6 +813,13 @@ public final class TokenFlowBoundaries {
         due("firing(0)", last.firing(0), -1);
         last.delay(2, 3);
         due("the last firing is there", plan(last), "3");
+        TokenFlow eight = chain(1, 1, 0);
+        eight.edge(7, 0, 1, 1, 0);
+        due("a ring of eight without tokens", plan(eight), "NoSuchElementException");
+        eight.clear();
+        eight.actor(SUM, 0);
+        eight.edge(0, 0, 1, 1, 0);
+        due("a loop without tokens where eight were before", plan(eight), "NoSuchElementException");
         TokenFlow many = sums(5);
         many.edge(0, 1, 9, 1, 0);
         many.edge(1, 2, 7, 1, 0);
@@ -1452,6 +1464,9 @@ public final class TokenFlowBoundaries {
         for (int no : new int[] {-1, 2, 7, 8, 9, MIN, MAX}) {
             due("repetitions(" + no + ")", x.repetitions(no), 0);
         }
+        TokenFlow one = sums(1);
+        plan(one);
+        due("of the only one, which fires once", one.repetitions(0), 1);
         TokenFlow full = full();
         plan(full);
         due("of the eighth", full.repetitions(7), 1);
