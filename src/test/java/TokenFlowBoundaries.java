@@ -3,7 +3,7 @@ import java.util.function.Consumer;
 import java.util.function.Supplier;
 
 /**
- * The boundary cases that the document names: a test for each sentence, which
+ * The boundary cases that the document names: a test or more for each sentence, which
  * begins with the sentence's words. No object is used for more than 512 calls.
  */
 public final class TokenFlowBoundaries {
@@ -18,7 +18,7 @@ public final class TokenFlowBoundaries {
     private static final int MAX = Integer.MAX_VALUE;
 
     private static int wrong = 0;
-    private static int sentences = 0;
+    private static int tests = 0;
     private static String sentence = "";
 
     public static void main(String[] args) {
@@ -32,7 +32,7 @@ public final class TokenFlowBoundaries {
         actorsAndEdges();
         startsAndClears();
         looks();
-        System.out.println(sentences + " sentences, " + wrong + " answers that are not as due");
+        System.out.println(tests + " tests, " + wrong + " answers that are not as due");
         if (wrong != 0) {
             System.exit(1);
         }
@@ -1729,7 +1729,7 @@ public final class TokenFlowBoundaries {
 
     private static void sentence(String words) {
         sentence = words;
-        sentences++;
+        tests++;
     }
 
     private static void due(String call, Object got, Object want) {
